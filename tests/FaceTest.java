@@ -66,7 +66,7 @@ final class FaceTest {
             .replaceAll("\"[^\"\n]*\"", "\"\"");
         String[] words = {"throw", "throws", "try", "catch", "synchronized", "assert", "package", "import", "instanceof",
             "protected", "volatile", "native", "transient", "var", "Object", "Exception", "Thread", "System.out",
-            "nanoTime", "currentTimeMillis", "Random", "hashCode", "toString", "\\w+Exact"};
+            "nanoTime", "MAX_VALUE", "MIN_VALUE", "currentTimeMillis", "Random", "hashCode", "toString", "\\w+Exact"};
         for (String word : words) {
             due("LANGUAGE: " + word, Pattern.compile("\\b" + word + "\\b").matcher(source).find() ? 1 : 0, 0);
         }

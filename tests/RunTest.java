@@ -179,6 +179,7 @@ final class RunTest {
         due("0 has no sign", x.run(0, 0, 0, 4, 6), 1);
         due("alike does not GROW", x.run(0, 0, 0, 5, 7), 0);
         due("PEAK 1", x.peak(0, 0, 0, 5, 1), 10);
+        due("PEAK of one second", x.peak(0, 0, 0, 1, 0), 10);
         x = Testing.with("turn 0;calm 100;start 10 0;sea -50 20 0 0 60 -60;", "");
         due("START's sign is the first", x.run(0, 0, 0, 2, 6), 1);
         due("none ahead of second 1", x.peak(0, 0, 0, 2, 0), 0);

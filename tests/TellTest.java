@@ -155,6 +155,11 @@ final class TellTest {
         Testing.dueFault(H, "easy", 1, 4);
         Testing.dueFault(H, "star 1;", 1, 6);
         Testing.dueFault(H, "star 1 -2;", 1, 7);
+        Testing.dueFault(H, "star -1 2;", 1, 5);
+        Testing.dueFault(H, "star;", 1, 4);
+        Testing.dueFault(H, "far;", 1, 3);
+        Testing.dueFault(H, "far z;", 1, 4);
+        Testing.dueFault(H, "farz 1;", 1, 0);
         Testing.dueFault(H, "star 1 2 3;", 1, 9);
         Testing.dueFault(H, "far -1;", 1, 4);
         Testing.dueFault(P, "row;", 1, 3);
@@ -162,6 +167,9 @@ final class TellTest {
         Testing.dueFault(P, "row 12345;", 1, 4);
         Testing.dueFault(W, "man 0;", 1, 5);
         Testing.dueFault(W, "man 0 1 2;", 1, 8);
+        Testing.dueFault(W, "man;", 1, 3);
+        Testing.dueFault(W, "man -0 1;", 1, 4);
+        Testing.dueFault(W, "man 0 -1;", 1, 6);
         // FAULT 1 goes ahead of all others, wherever it is.
         Testing.dueFault(S, "turn 100;calm 101;x", 1, 18);
         Testing.dueFault(S, "turn 100;calm 101", 1, 17);
@@ -186,14 +194,17 @@ final class TellTest {
         Testing.dueFault(S, "wind 100;", 2, 5);
         Testing.dueFault(S, "trim -100;", 2, 6);
         Testing.dueFault(S, "trim 9999;", 2, 5);
+        Testing.dueFault(S, "trim 100;", 2, 5);
+        Testing.dueFault(S, "start 0 1000;", 2, 8);
+        Testing.dueFault(S, "sea 100;", 2, 4);
         Testing.dueFault(S, "start 1000 0;", 2, 6);
         Testing.dueFault(S, "start 0 -1000;", 2, 9);
         Testing.dueFault(S, "start -1000 1000;", 2, 7);
         Testing.dueFault(S, "sea 1 - 100;", 2, 8);
         Testing.dueFault(S, "turn 100;turn 5;", 2, 5);
         Testing.dueFault(S, "turn 5;calm 999;lag 99;", 2, 12);
-        String[] hands = {"far 99;", "quick 99;", "been 99;", "dead 999;", "point 1;point 999;", "wrong 999;", "tired 999;",
-            "slips 100;", "star 0 0;star 999 999;"};
+        String[] hands = {"far 99;", "quick 99;", "been 99;", "dead 999;", "point 1;point 999;", "wrong 0;wrong 999;",
+            "tired 0;tired 999;", "slips 0;slips 100;", "far 0;quick 0;been 0;dead 0;", "star 0 0;star 999 999;"};
         for (String text : hands) {
             Testing.dueFault(H, text, 0, -1);
         }

@@ -144,6 +144,7 @@ final class TrialTest {
         due("p16 w 1", x.alone(0, 1, 1), 99);
         due("p16 by none", x.alone(0, 1, 0), -1);
         due("p16 w -1", x.alone(0, 1, -1), -1);
+        due("p16 w 0", Testing.with("turn 0;", "").alone(0, 9, 0), 0);
         due("p16 n 0", x.alone(0, 0, 80), -1);
         due("p16 n 201", x.alone(0, 201, 100), -1);
         due("p16 n 200", x.alone(0, 200, 100), 0);
@@ -168,6 +169,7 @@ final class TrialTest {
         x = Testing.with("turn 0;calm 100;wind 5;sea 2;", "");
         due("p17 by none", x.hard(0, 0, 1, 4), -1);
         due("p17 w 5", x.hard(0, 0, 1, 5), 0);
+        due("p17 w 0", Testing.with("turn 0;", "").hard(0, 0, 9, 0), 9);
     }
 
     private static void set() {
@@ -221,6 +223,7 @@ final class TrialTest {
         }
         due("p21 none, all and some were seen", some & 3, 3);
         due("p21 w -1", x.cloud(0, 0, 30, -1), -1);
+        due("p21 w 0", Testing.with("turn 0;", "").cloud(0, 0, 9, 0), 9);
         // The whole of the way is the same with a STAR and without: she is too wide by none or by all.
         x = Testing.with("turn 0;calm 100;start 30 0;", "star 2 3;");
         due("p21 by all", x.cloud(0, 0, 4, 30), 4);
@@ -337,6 +340,14 @@ final class TrialTest {
         due("p35 GEARED", x.bound(0, 0, 1, 41, 2), 9);
         due("p35 NARROW, all", x.bound(0, 0, 1, 50, 1), 1);
         due("p35 none", x.bound(0, 0, 1, 14, 1), -1);
+        x = Testing.with("turn 1;calm 100;start 50 0;", "far 99;");
+        due("p35 NARROW, the greatest", x.bound(0, 0, 1, 15, 1), 35);
+        due("p35 GEARED, the greatest", x.bound(0, 0, 1, 15, 2), 35);
+        due("p35 w 0", Testing.with("turn 0;", "").bound(0, 0, 1, 0, 0), 99);
+        // He SEES 1 in second 2, GOES 21: only by DEAD 0 he meets the second sea.
+        x = Testing.with("turn 1;calm 100;start -20 0;sea 21 20;", "quick 99;");
+        due("p35 DEADEST, the least", x.bound(0, 0, 2, 20, 0), 0);
+        due("p35 DEADEST, none", x.bound(0, 0, 2, 0, 0), -1);
         due("p35 w -1", x.bound(0, 0, 1, -1, 0), -1);
         due("p35 what 3", x.bound(0, 0, 1, 50, 3), -1);
         due("p35 what -1", x.bound(0, 0, 1, 50, -1), -1);

@@ -4,8 +4,12 @@ public final class HelmHand {
 
     // What the document answers where NONE could be an answer of its own.
     private static final int MISSING = -100000;
-    private static final long NO_LONG = Long.MIN_VALUE;
+    private static final long NO_LONG = -9223372036854775808L;
     private static final int REFUSED = -2;
+
+    // Above whatever can be reckoned, so that the first trial is always the best one yet.
+    private static final long ENDLESS = 9223372036854775807L;
+    private static final int ENDLESS_INT = 2147483647;
 
     private static final int TAPE_BYTES = 600;
     private static final int LONGEST_RUN = 400;
@@ -187,7 +191,7 @@ public final class HelmHand {
             return NONE;
         }
         int best = NONE;
-        long least = Long.MAX_VALUE;
+        long least = ENDLESS;
         for (int been = 0; been <= WIDEST_RULE; been++) {
             long now = costWith(BEEN, been, n);
             if (now < least) {
@@ -246,7 +250,7 @@ public final class HelmHand {
         }
         int wind = trialShip.wind;
         int best = MISSING;
-        long nearest = Long.MAX_VALUE;
+        long nearest = ENDLESS;
         for (int more = -50; more <= 50; more++) {
             trialShip.wind = wind + more;
             wheel.sail(trialShip, trialHand, 0, n);
@@ -334,7 +338,7 @@ public final class HelmHand {
         if (!near) {
             return far;
         }
-        long least = Long.MAX_VALUE;
+        long least = ENDLESS;
         for (int other = 0; other <= 63; other++) {
             least = Math.min(least, costWith(FAR, other, n));
         }
@@ -384,7 +388,7 @@ public final class HelmHand {
             return NONE;
         }
         int best = NONE;
-        long least = Long.MAX_VALUE;
+        long least = ENDLESS;
         for (int till = 0; till <= n; till++) {
             sailChanged(sailing, before, behind, till, n);
             if (wheel.cost() < least) {
@@ -403,7 +407,7 @@ public final class HelmHand {
             return NONE;
         }
         int best = NONE;
-        long least = Long.MAX_VALUE;
+        long least = ENDLESS;
         // Two bits a HAND, the first one highest: so rows go up as the document orders them.
         for (int row = 0; row < 1 << 2 * men; row++) {
             if (handsOf(row, men) == hands) {
@@ -446,7 +450,7 @@ public final class HelmHand {
             return NONE;
         }
         int best = NONE;
-        int least = Integer.MAX_VALUE;
+        int least = ENDLESS_INT;
         for (int hand = 0; hand < book.hands; hand++) {
             if (ready(ship, hand, told.size)) {
                 int now = trialApart(told);
@@ -465,7 +469,7 @@ public final class HelmHand {
             return NONE;
         }
         int best = NONE;
-        int least = Integer.MAX_VALUE;
+        int least = ENDLESS_INT;
         for (int turn = 0; turn <= 99; turn++) {
             trialShip.write(TURN, turn);
             int now = trialApart(told);
@@ -482,7 +486,7 @@ public final class HelmHand {
             return MISSING;
         }
         int lucky = seed;
-        long least = Long.MAX_VALUE;
+        long least = ENDLESS;
         long together = 0;
         for (int k = 0; k < w; k++) {
             wheel.sail(trialShip, trialHand, seed + k, n);
@@ -564,7 +568,7 @@ public final class HelmHand {
             return NONE;
         }
         int best = NONE;
-        int least = Integer.MAX_VALUE;
+        int least = ENDLESS_INT;
         for (int till = 0; till <= told.size; till++) {
             sailChanged(sailing, before, behind, till, told.size);
             int now = wheel.apartFrom(told);
@@ -670,7 +674,7 @@ public final class HelmHand {
         }
         int bestFar = 0;
         int bestQuick = 0;
-        long least = Long.MAX_VALUE;
+        long least = ENDLESS;
         for (int far = 0; far <= a; far++) {
             for (int quick = 0; quick <= b; quick++) {
                 trialHand.write(FAR, far);
@@ -688,7 +692,7 @@ public final class HelmHand {
 
     private int leastOfThree(int middle, int step, int n) {
         int best = middle;
-        long least = Long.MAX_VALUE;
+        long least = ENDLESS;
         for (int k = -1; k <= 1; k++) {
             long now = costWith(FAR, middle + k * step, n);
             if (now < least) {
@@ -767,7 +771,7 @@ public final class HelmHand {
 
     private long costInTurns(Ship sailing, int row, int men, int n) {
         if (men < 1) {
-            return Long.MAX_VALUE;
+            return ENDLESS;
         }
         int each = n / men;
         wheel.begin(sailing, 0);
