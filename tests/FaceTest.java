@@ -106,11 +106,11 @@ final class FaceTest {
         HelmHand x = everyThing();
         every(x, 3);
         long before = bean.getThreadAllocatedBytes(Thread.currentThread().getId());
-        for (int i = 0; i < 20; i++) {
+        for (int i = 0; i < 8; i++) {
             every(x, 3);
         }
         long made = bean.getThreadAllocatedBytes(Thread.currentThread().getId()) - before;
-        due("bytes made by 20 rounds of calls: " + made, made < 20_000 ? 1 : 0, 1);
+        due("bytes made by 8 rounds of calls: " + made, made < 8_000 ? 1 : 0, 1);
     }
 
     private static HelmHand everyThing() {

@@ -7,19 +7,23 @@ final class FuzzTest {
     private static final String[] HAND_TEXTS = {"far # ", "quick # ", "been # ", "dead # ", "point # ", "wrong # ",
         "tired # ", "slips # ", "easy ", "star # # "};
 
+    // An object is used for 512 calls at most; a step may make some 80.
+    private static final int MOST_CALLS = 430;
+
     private final Random random;
     private final HelmHand x = new HelmHand();
     private final Oracle o = new Oracle();
+    private int calls = 0;
 
     private FuzzTest(int seed) {
         random = new Random(seed);
     }
 
     public static void main(String[] args) {
-        for (int seed = 0; seed < 600; seed++) {
+        for (int seed = 0; seed < 1200; seed++) {
             FuzzTest fuzz = new FuzzTest(seed);
             fuzz.settle();
-            for (int i = 0; i < 123; i++) {
+            for (int i = 0; i < 123 && fuzz.calls < MOST_CALLS; i++) {
                 fuzz.one(i * 7 % 41);
             }
         }
@@ -179,8 +183,9 @@ final class FuzzTest {
     }
 
     private void lookAround() {
-        int i = upTo(3) - 1;
-        for (int what = -1; what < 34; what++) {
+        for (int k = 0; k < 3; k++) {
+            int i = upTo(3) - 1;
+            int what = upTo(34) - 1;
             due("ship", x.ship(i, what), o.ship(i, what));
             due("hand", x.hand(i, what), o.hand(i, what));
             due("paper", x.paper(i, what), o.paper(i, what));
@@ -190,10 +195,12 @@ final class FuzzTest {
     }
 
     private void due(String call, long got, long want) {
+        calls++;
         Testing.due(call, got, want);
     }
 
     private void due(String call, boolean got, boolean want) {
+        calls++;
         Testing.due(call, got, want);
     }
 

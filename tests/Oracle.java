@@ -276,6 +276,9 @@ final class Oracle {
 
     // ---- a RUN
 
+    /** The SEED of RUNS for which none is told: 0, but for SeedlessTest, which looks whether that counts. */
+    int seedless = 0;
+
     /** One leg of a RUN: who steers (none, one, two of them), how long. */
     record Leg(int seconds, Thing... hands) {
     }
@@ -401,8 +404,8 @@ final class Oracle {
         return track;
     }
 
-    static Track sail(Thing ship, Thing hand, int n) {
-        return sail(ship, 0, new Leg(n, hand));
+    private Track sail(Thing ship, Thing hand, int n) {
+        return sail(ship, seedless, new Leg(n, hand));
     }
 
     private Track asked(int ship, int hand, int seed, int n) {
@@ -522,7 +525,7 @@ final class Oracle {
         if (thing(0, ship) == null || n < 1 || n > 200 || w < 0) {
             return NONE;
         }
-        return firstOf(0, 99, trim -> sail(thing(0, ship).but(7, trim), 0, new Leg(n)).widest() <= w);
+        return firstOf(0, 99, trim -> sail(thing(0, ship).but(7, trim), seedless, new Leg(n)).widest() <= w);
     }
 
     int hard(int ship, int hand, int n, int w) {
@@ -641,7 +644,7 @@ final class Oracle {
         if (lacks(ship, one, n) || lacks(ship, other, n)) {
             return NONE;
         }
-        return leastOf(0, n, k -> sail(thing(0, ship), 0, new Leg(k, thing(1, one)), new Leg(n - k, thing(1, other))).cost());
+        return leastOf(0, n, k -> sail(thing(0, ship), seedless, new Leg(k, thing(1, one)), new Leg(n - k, thing(1, other))).cost());
     }
 
     int order(int ship, int hands, int n, int k) {
@@ -668,7 +671,7 @@ final class Oracle {
                 int each = n / legs.length;
                 legs[i] = new Leg(i < legs.length - 1 ? each : each + n % legs.length, thing(1, orders.get(v).get(i)));
             }
-            return sail(thing(0, ship), 0, legs).cost();
+            return sail(thing(0, ship), seedless, legs).cost();
         });
         return orders.get(best).get(k);
     }
@@ -690,7 +693,7 @@ final class Oracle {
         if (lacks(ship, one, n) || lacks(ship, other, n)) {
             return NONE;
         }
-        Track r = sail(thing(0, ship), 0, new Leg(n, thing(1, one), thing(1, other)));
+        Track r = sail(thing(0, ship), seedless, new Leg(n, thing(1, one), thing(1, other)));
         return widest ? r.widest() : r.cost();
     }
 
@@ -784,7 +787,7 @@ final class Oracle {
         if (lacks(ship, one, n) || lacks(ship, other, n)) {
             return NONE;
         }
-        return leastOf(0, n, k -> sail(thing(0, ship), 0, new Leg(k, thing(1, one)), new Leg(n - k, thing(1, other)))
+        return leastOf(0, n, k -> sail(thing(0, ship), seedless, new Leg(k, thing(1, one)), new Leg(n - k, thing(1, other)))
             .apart(thing(2, paper)));
     }
 

@@ -20,22 +20,12 @@ final class RunTest {
         Testing.due(call, got, want);
     }
 
-    private static void dueRow(String call, HelmHand x, int seed, int what, int... want) {
-        for (int t = 0; t < want.length; t++) {
-            due(call + ": second " + t + " what " + what, x.second(0, 0, seed, t, what), want[t]);
-        }
-    }
-
-    private static void dueSteering(String call, String ship, String hand, int what, int... want) {
-        dueRow(call, Testing.with(ship, hand), 0, what, want);
-    }
-
     private static void plainRun() {
         HelmHand x = Testing.with("turn 1;calm 0;start 100 0;", "far 50;");
-        dueRow("p10", x, 0, 0, 100, 65, -2, -68, -100, -97, -59, 8, 71);
-        dueRow("p10", x, 0, 1, 0, -35, -67, -66, -32, 3, 38, 67, 63);
-        dueRow("p10", x, 0, 2, 0, -35, -32, 1, 34, 35, 35, 29, -4);
-        dueRow("p10", x, 0, 3, 0, 100, 65, -2, -68, -100, -97, -59, 8);
+        Testing.dueRow("p10", x, 0, 0, 100, 65, -2, -68, -100, -97, -59, 8, 71);
+        Testing.dueRow("p10", x, 0, 1, 0, -35, -67, -66, -32, 3, 38, 67, 63);
+        Testing.dueRow("p10", x, 0, 2, 0, -35, -32, 1, 34, 35, 35, 29, -4);
+        Testing.dueRow("p10", x, 0, 3, 0, 100, 65, -2, -68, -100, -97, -59, 8);
     }
 
     private static void wrongCalls() {
@@ -80,49 +70,49 @@ final class RunTest {
 
     private static void whatHeSees() {
         String steady = "turn 0;calm 0;start 3 10;";
-        dueSteering("LAG 0", steady, "", 3, 0, 3, 13, 23, 33);
-        dueSteering("LAG 2", steady + "lag 2;", "", 3, 0, 3, 3, 3, 13, 23);
-        dueSteering("LAG 9", steady + "lag 9;", "", 3, 0, 3, 3, 3, 3, 3, 3, 3, 3, 3, 3, 13, 23);
-        dueSteering("TIRED 2", steady, "tired 2;", 3, 0, 3, 3, 13, 13, 23, 23, 33);
-        dueSteering("TIRED 1, 5 at most", steady + "lag 1;", "tired 1;", 3, 0, 3, 3, 3, 3, 3, 3, 3, 13, 23);
-        dueSteering("STARS", steady + "lag 3;", "star 2 3;star 5 5;", 3, 0, 3, 13, 23, 3, 43, 23);
-        dueSteering("a STAR of one TIRED", steady + "lag 3;", "tired 1;star 4 4;", 3, 0, 3, 3, 3, 33, 3);
-        dueSteering("POINT", steady, "point 5;", 3, 0, 0, 10, 20, 30, 40, 50);
-        dueSteering("POINT cuts towards 0", "turn 0;calm 0;start -3 -10;", "point 5;", 3, 0, 0, -10, -20);
+        Testing.dueSteering("LAG 0", steady, "", 3, 0, 3, 13, 23, 33);
+        Testing.dueSteering("LAG 2", steady + "lag 2;", "", 3, 0, 3, 3, 3, 13, 23);
+        Testing.dueSteering("LAG 9", steady + "lag 9;", "", 3, 0, 3, 3, 3, 3, 3, 3, 3, 3, 3, 3, 13, 23);
+        Testing.dueSteering("TIRED 2", steady, "tired 2;", 3, 0, 3, 3, 13, 13, 23, 23, 33);
+        Testing.dueSteering("TIRED 1, 5 at most", steady + "lag 1;", "tired 1;", 3, 0, 3, 3, 3, 3, 3, 3, 3, 13, 23);
+        Testing.dueSteering("STARS", steady + "lag 3;", "star 2 3;star 5 5;", 3, 0, 3, 13, 23, 3, 43, 23);
+        Testing.dueSteering("a STAR of one TIRED", steady + "lag 3;", "tired 1;star 4 4;", 3, 0, 3, 3, 3, 33, 3);
+        Testing.dueSteering("POINT", steady, "point 5;", 3, 0, 0, 10, 20, 30, 40, 50);
+        Testing.dueSteering("POINT cuts towards 0", "turn 0;calm 0;start -3 -10;", "point 5;", 3, 0, 0, -10, -20);
     }
 
     private static void whatHeWants() {
         String still = "turn 0;calm 100;";
-        dueSteering("FAR", still + "start 70 0;", "far 50;", 2, 0, -35, -35);
-        dueSteering("FAR, cut", still + "start 33 0;", "far 10;", 2, 0, -3, -3);
-        dueSteering("FAR, cut", still + "start -39 0;", "far 10;", 2, 0, 3, 3);
-        dueSteering("QUICK, not in the first second", still + "start 50 0;sea 10 20;", "quick 50;", 2, 0, 0, -5, -10, -5);
-        dueSteering("BEEN", still + "start 500 0;", "been 99;", 2, 0, -4, -9, -14, -19);
-        dueSteering("SUM within 9999", still + "start 999 0;most 35;", "been 30;", 2,
+        Testing.dueSteering("FAR", still + "start 70 0;", "far 50;", 2, 0, -35, -35);
+        Testing.dueSteering("FAR, cut", still + "start 33 0;", "far 10;", 2, 0, -3, -3);
+        Testing.dueSteering("FAR, cut", still + "start -39 0;", "far 10;", 2, 0, 3, 3);
+        Testing.dueSteering("QUICK, not in the first second", still + "start 50 0;sea 10 20;", "quick 50;", 2, 0, 0, -5, -10, -5);
+        Testing.dueSteering("BEEN", still + "start 500 0;", "been 99;", 2, 0, -4, -9, -14, -19);
+        Testing.dueSteering("SUM within 9999", still + "start 999 0;most 35;", "been 30;", 2,
             0, -2, -5, -8, -11, -14, -17, -20, -23, -26, -29, -29, -29);
-        dueSteering("SUM within -9999", still + "start -999 0;", "been 30;", 2,
+        Testing.dueSteering("SUM within -9999", still + "start -999 0;", "been 30;", 2,
             0, 2, 5, 8, 11, 14, 17, 20, 23, 26, 29, 29, 29);
-        dueSteering("MOST", still + "start 999 0;most 7;", "far 50;", 2, 0, -7, -7);
-        dueSteering("GEAR", still + "start 999 0;gear 15;", "far 50;", 2, 0, -15, -30, -35, -35);
-        dueSteering("GEAR the other way", still + "start -999 0;gear 15;most 20;", "far 50;", 2, 0, 15, 20, 20);
-        dueSteering("DEAD, its edge", still + "start 20 0;sea 1 -1;", "far 50;dead 20;", 2, 0, 0, -10, 0, -10);
-        dueSteering("DEAD, its other edge", still + "start -20 0;sea -1 1;", "far 50;dead 20;", 2, 0, 0, 10, 0, 10);
-        dueSteering("DEAD 0: he SEES 0", still + "start 10 0;sea -10 5;", "quick 50;", 2, 0, 0, 0, -2);
-        dueSteering("EASY", still + "start 50 0;sea -10 4;", "far 20;easy;", 2, 0, -10, 0, -8, 0);
-        dueSteering("EASY", still + "start -50 0;sea 10 -4;", "far 20;easy;", 2, 0, 10, 0, 8, 0);
-        dueSteering("not EASY", still + "start 50 0;sea -10 4;", "far 20;", 2, 0, -10, -8, -8, -6);
-        dueSteering("WRONG", still + "start 50 0;", "far 20;wrong 2;", 2, 0, 10, 10, -10);
-        dueSteering("WRONG within MOST", still + "start 500 0;", "far 20;wrong 1;", 2, 0, 35, 0, -35);
+        Testing.dueSteering("MOST", still + "start 999 0;most 7;", "far 50;", 2, 0, -7, -7);
+        Testing.dueSteering("GEAR", still + "start 999 0;gear 15;", "far 50;", 2, 0, -15, -30, -35, -35);
+        Testing.dueSteering("GEAR the other way", still + "start -999 0;gear 15;most 20;", "far 50;", 2, 0, 15, 20, 20);
+        Testing.dueSteering("DEAD, its edge", still + "start 20 0;sea 1 -1;", "far 50;dead 20;", 2, 0, 0, -10, 0, -10);
+        Testing.dueSteering("DEAD, its other edge", still + "start -20 0;sea -1 1;", "far 50;dead 20;", 2, 0, 0, 10, 0, 10);
+        Testing.dueSteering("DEAD 0: he SEES 0", still + "start 10 0;sea -10 5;", "quick 50;", 2, 0, 0, 0, -2);
+        Testing.dueSteering("EASY", still + "start 50 0;sea -10 4;", "far 20;easy;", 2, 0, -10, 0, -8, 0);
+        Testing.dueSteering("EASY", still + "start -50 0;sea 10 -4;", "far 20;easy;", 2, 0, 10, 0, 8, 0);
+        Testing.dueSteering("not EASY", still + "start 50 0;sea -10 4;", "far 20;", 2, 0, -10, -8, -8, -6);
+        Testing.dueSteering("WRONG", still + "start 50 0;", "far 20;wrong 2;", 2, 0, 10, 10, -10);
+        Testing.dueSteering("WRONG within MOST", still + "start 500 0;", "far 20;wrong 1;", 2, 0, 35, 0, -35);
     }
 
     private static void whatSheDoes() {
-        dueSteering("CALM", "turn 0;calm 30;start 0 15;", "", 1, 0 + 15, 11, 8, 6, 5);
-        dueSteering("CALM cuts towards 0", "turn 0;calm 30;start 0 -15;", "", 1, -15, -11, -8, -6, -5);
-        dueSteering("TURN", "turn 3;calm 100;start 10 0;", "far 50;", 0, 10, -5, 1, 1);
-        dueSteering("WIND", "turn 0;calm 0;wind -4;", "", 0, 0, -4, -12, -24);
-        dueSteering("SEAS again and again", "turn 0;calm 100;sea 1 -5 9;", "", 1, 0, 1, -5, 9, 1, -5, 9, 1);
-        dueSteering("TRIM", "turn 0;calm 100;trim 10;start 99 0;", "", 0, 99, 90, 81, 73);
-        dueSteering("TRIM below 0", "turn 0;calm 100;trim -10;start -99 0;", "", 0, -99, -108, -118);
+        Testing.dueSteering("CALM", "turn 0;calm 30;start 0 15;", "", 1, 0 + 15, 11, 8, 6, 5);
+        Testing.dueSteering("CALM cuts towards 0", "turn 0;calm 30;start 0 -15;", "", 1, -15, -11, -8, -6, -5);
+        Testing.dueSteering("TURN", "turn 3;calm 100;start 10 0;", "far 50;", 0, 10, -5, 1, 1);
+        Testing.dueSteering("WIND", "turn 0;calm 0;wind -4;", "", 0, 0, -4, -12, -24);
+        Testing.dueSteering("SEAS again and again", "turn 0;calm 100;sea 1 -5 9;", "", 1, 0, 1, -5, 9, 1, -5, 9, 1);
+        Testing.dueSteering("TRIM", "turn 0;calm 100;trim 10;start 99 0;", "", 0, 99, 90, 81, 73);
+        Testing.dueSteering("TRIM below 0", "turn 0;calm 100;trim -10;start -99 0;", "", 0, -99, -108, -118);
         HelmHand x = Testing.with("turn 99;calm 0;start 999 999;wind 99;", "far 99;wrong 999;");
         due("HEADING within 18000", x.second(0, 0, 0, 30, 0), 18000);
         due("PACE within 9999", x.second(0, 0, 0, 30, 1), 9999);

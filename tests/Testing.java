@@ -63,6 +63,36 @@ final class Testing {
         return x;
     }
 
+    /** A new object with one SHIP and as many HANDS as are told. */
+    static HelmHand crew(String ship, String... hands) {
+        HelmHand x = new HelmHand();
+        due("SHIP " + ship, tell(x, SHIP, ship), 0);
+        for (int i = 0; i < hands.length; i++) {
+            due("HAND " + hands[i], tell(x, HAND, hands[i]), i);
+        }
+        return x;
+    }
+
+    /** A text in the place of the last one of its sort, if there are as many as may be, else a further one. */
+    static int tellOver(HelmHand x, int sort, String text) {
+        put(x, text);
+        int at = x.count(sort) == 2 ? 1 : NONE;
+        int place = x.text(sort, at);
+        due("told: " + text, place, at == 1 ? 1 : x.count(sort) - 1);
+        return place;
+    }
+
+    /** Of the RUN of SHIP 0 by HAND 0 what is due behind the seconds 0, 1, 2 and so on. */
+    static void dueRow(String call, HelmHand x, int seed, int what, int... want) {
+        for (int t = 0; t < want.length; t++) {
+            due(call + ": second " + t + " what " + what, x.second(0, 0, seed, t, what), want[t]);
+        }
+    }
+
+    static void dueSteering(String call, String ship, String hand, int what, int... want) {
+        dueRow(call, with(ship, hand), 0, what, want);
+    }
+
     static void dueFault(int sort, String text, int fault, int place) {
         HelmHand x = new HelmHand();
         int answer = tell(x, sort, text);
