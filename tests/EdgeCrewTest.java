@@ -202,6 +202,8 @@ final class EdgeCrewTest {
         dueOrder(Testing.crew(AT_100, "far 3;", "far 10;"), 3, 2, 1, 0);
         // Of 3, one, and two for the last one: 40 5 1 or, HAND 1 first, 40 40 40. (Two for the first one: 40 40 5 or 40 5 5.)
         dueOrder(Testing.crew(AT_ONCE + "sea 40 0 0;", "", "far 99;"), 3, 3, 0, 1);
+        // And the rest is steered: 40 5 or 40 40 without it, but 40 5 -59 or 40 40 -20 with it.
+        dueOrder(Testing.crew(AT_ONCE + "sea 40 0 -60;", "", "far 99;"), 3, 3, 1, 0);
         // Of 4, two each: 40 40 5 1 or, HAND 1 first, 40 5 5 5.
         dueOrder(Testing.crew(AT_ONCE + "sea 40 0 0 0;", "", "far 99;"), 3, 4, 1, 0);
         // Of 5, two, and three for the last one: 40 40 5 1 1 or, HAND 1 first, 40 5 5 5 5.
@@ -214,6 +216,15 @@ final class EdgeCrewTest {
         dueOrder(x, 15, 7, 0, 1, 2, 3);
         dueOrder(x, 10, 2, 1, 3);
         dueOrder(x, 8, 1, 3);
+        // The strongest first, the weakest last, whichever number they have.
+        x = Testing.crew(AT_100, "", "far 5;", "far 10;", "far 20;");
+        dueOrder(x, 15, 4, 3, 2, 1, 0);
+        dueOrder(x, 14, 3, 3, 2, 1);
+        dueOrder(x, 13, 3, 3, 2, 0);
+        dueOrder(x, 11, 3, 3, 1, 0);
+        dueOrder(x, 7, 3, 2, 1, 0);
+        x = Testing.crew(AT_100, "far 20;", "far 10;", "far 5;", "");
+        dueOrder(x, 15, 4, 0, 1, 2, 3);
         // Two of three are alike: of the rows alike the first one.
         x = Testing.crew(AT_100, "far 10;", "far 20;", "far 10;");
         dueOrder(x, 7, 3, 1, 0, 2);
@@ -313,6 +324,11 @@ final class EdgeCrewTest {
             due("p30 SAME of " + count, x.apart(0, 0, paper(x, "row" + " 50".repeat(count) + ";"), true), count);
         }
         due("p30 SAME but the last one", x.apart(0, 0, paper(x, "row" + " 50".repeat(59) + " 51;"), true), 59);
+        // START is none of them: HEADINGS 51 49 50 48 behind it.
+        HelmHand y = Testing.crew("turn 0;calm 100;start 50 0;sea 1 -2;", "");
+        due("p30 SAME, moving", y.apart(0, 0, paper(y, "row 51 49 50 48;"), true), 4);
+        due("p30 SAME, moving", y.apart(0, 0, paper(y, "row 51 49 50 49;"), true), 3);
+        due("p30 SAME, from START", y.apart(0, 0, paper(y, "row 50 51 49 50;"), true), 0);
         // Nothing of the row that was there counts.
         paper(x, "row" + " 50".repeat(60) + ";");
         due("p30 SAME, shorter now", x.apart(0, 0, paper(x, "row 50 50;"), true), 2);

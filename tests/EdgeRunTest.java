@@ -208,6 +208,10 @@ final class EdgeRunTest {
                 dueSums("turn 0;calm 0;start -900 -900;wind 60;", -1, far, been);
             }
         }
+        // She comes by 50 each second; behind 19 of them she is 49 off, and SUM has been at its edge since the 17th:
+        // 49 * 49 - 98 * 50 + 51 * 9999 / 100 is 2600; by a SUM of 9998 it would be 2599.
+        due("SUM at 9999", rudder("turn 0;calm 100;start 999 0;wind -50;", "far 49;quick 98;been 51;", 20), -26);
+        due("SUM at -9999", rudder("turn 0;calm 100;start -999 0;wind 50;", "far 49;quick 98;been 51;", 20), 26);
         // 999 ten times is 9990: by an eleventh one it would be 10989.
         dueRudder("SUM to its edge", "turn 0;start 999 0;", "been 30;", 0, -2, -5, -8, -11, -14, -17, -20, -23, -26, -29, -29);
         // 909 eleven times is 9999, and 30 parts of 10000 would be one spoke more.

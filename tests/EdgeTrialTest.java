@@ -37,6 +37,7 @@ final class EdgeTrialTest {
         promise34LagOfItsOwn();
         promise35Deadest();
         promise35NarrowAndGeared();
+        promise35NoMoreThan35();
         promise36Broach();
         promise36Ahead();
         promise36Half();
@@ -224,6 +225,7 @@ final class EdgeTrialTest {
         due("p19 EASE in one second", Testing.with(coming, "far 10;easy;").worth(0, 0, 1, 1), 0);
         // By QUICK 50 he meets 20 by 10.
         due("p19 MEET", Testing.with(AT_ONCE + "sea 20 0;", "quick 50;").worth(0, 0, 2, 2), 10);
+        due("p19 MEET by QUICK 0", Testing.with(AT_ONCE + "wind 1;sea 99 -1;", "quick 20;").worth(0, 0, 2, 2), 20);
         due("p19 MEET of one who does not", Testing.with(AT_ONCE + "sea 20 0;", "far 9;").worth(0, 0, 2, 2), 0);
         due("p19 MEET below 0", Testing.with(AT_ONCE + "sea 20 -20;", "quick 50;").worth(0, 0, 2, 2), -10);
     }
@@ -348,8 +350,8 @@ final class EdgeTrialTest {
         due("p24 NEAR, met", Testing.with(AT_ONCE + "start 100 0;wind -68;", "").tries(0, 0, 1, true), 0);
         due("p24 NEAR, one off", Testing.with(AT_ONCE + "start 100 0;wind -67;", "").tries(0, 0, 1, true), 1);
         due("p24 NEAR, two off", Testing.with(AT_ONCE + "start 100 0;wind -70;", "").tries(0, 0, 1, true), 2);
-        // From FAR 0: he is WRONG by 2 of 50.
-        due("p24 NEAR, FAR 0", Testing.with(AT_ONCE + "start 50 0;", "wrong 1;").tries(0, 0, 1, true), 2);
+        // From FAR 0: he is WRONG by 4 of 100 with the least that he tries; by less than FAR 0 he would do better still.
+        due("p24 NEAR, FAR 0", Testing.with(AT_ONCE + "start 100 0;", "wrong 1;").tries(0, 0, 1, true), 4);
         due("p24 NEAR, FAR 1", Testing.with(AT_ONCE + "start 100 0;wind -99;", "").tries(0, 0, 1, true), 3);
         // To FAR 63: 27 makes 16 of 60 to 62, 17 of 63 to 66, and 55 makes 33 of 60, 34 of 62 and 63, 35 of 64.
         due("p24 NEAR, FAR 63", Testing.with(AT_ONCE + "start 27 0;", "").tries(0, 0, 1, true), 1);
@@ -373,6 +375,19 @@ final class EdgeTrialTest {
         due("p25 as it was", Testing.with(AT_ONCE + "start 100 0;", "far 36;").learning(0, 0, 1, 30), 36);
         due("p25 as it was", Testing.with(AT_ONCE + "start 100 0;", "far 35;").learning(0, 0, 1, 30), 35);
         due("p25 as it was", Testing.with(AT_ONCE + "start 100 0;", "far 34;").learning(0, 0, 1, 30), 35);
+        // Of 50, FAR 32 and 33 make 16, 34 and 35 make 17, 31 makes 15: he goes by one, and only where one is of use.
+        int[][] rows = {{32, 32}, {33, 34}, {34, 34}, {35, 36}};
+        for (int[] row : rows) {
+            x = Testing.with(AT_ONCE + "start 50 0;", "far " + row[0] + ";");
+            due("p25 from " + row[0] + ", a day", x.learning(0, 0, 1, 1), row[1]);
+            due("p25 from " + row[0] + ", all days", x.learning(0, 0, 1, 30), row[1]);
+        }
+        int[][] lower = {{33, 33}, {32, 31}, {31, 31}, {30, 29}};
+        for (int[] row : lower) {
+            x = Testing.with(AT_ONCE + "start 50 0;", "wrong 1;far " + row[0] + ";");
+            due("p25 less from " + row[0] + ", a day", x.learning(0, 0, 1, 1), row[1]);
+            due("p25 less from " + row[0] + ", all days", x.learning(0, 0, 1, 30), row[1]);
+        }
         // COST by FAR 49, 50, 51 is 10, 12, 10: less goes ahead of more.
         due("p25 less", Testing.with("turn 2;calm 100;start -18 0;sea 6;", "far 50;quick 4;").learning(0, 0, 2, 1), 49);
     }
@@ -409,6 +424,9 @@ final class EdgeTrialTest {
         dueLead("20 -61 99", "far 1;wrong 9;", NONE);
         dueLead("20 -40 99", "far 1;wrong 9;", 0);
         dueLead("20 -41 99", "far 1;wrong 9;", 4);
+        // By FAR 0, QUICK 95 makes 19, and QUICK 100 alone would make 20.
+        dueLead("20 -59 99", "wrong 9;", 95);
+        dueLead("20 -60 99", "wrong 9;", NONE);
         due("p34 two PEAKS", Testing.with(AT_ONCE + "sea 20 -61 99;", "far 1;wrong 9;").lead(0, 0, 2, 0), 0);
         // What QUICK he has is struck.
         dueLead("20 -60 99", "far 1;quick 50;wrong 9;", 99);
@@ -473,6 +491,18 @@ final class EdgeTrialTest {
         for (int what : new int[] {LEAST, -1, 3, MOST}) {
             due("p35 what " + what, x.bound(0, 0, 1, 50, what), NONE);
         }
+    }
+
+    private static void promise35NoMoreThan35() {
+        // She heads 64, then, by all that MOST 35 has, 128; by 36 in second 2 it would be 127.
+        HelmHand x = Testing.with(AT_ONCE + "start 99 0;sea 0 99;", "far 99;");
+        due("p35 NARROW 35", x.bound(0, 0, 2, 128, 1), 35);
+        due("p35 NARROW 36 is none", x.bound(0, 0, 2, 127, 1), NONE);
+        // RUDDER goes one way by GEAR, back by GEAR, the other way by GEAR: that is nothing together. From 35 back by
+        // 36 it would be 1 more.
+        x = Testing.with(AT_ONCE + "start 99 0;wind -30;sea -99 -5 -99;", "far 99;");
+        due("p35 GEARED 1", x.bound(0, 0, 3, 194, 2), 1);
+        due("p35 GEARED 36 is none", x.bound(0, 0, 3, 193, 2), NONE);
     }
 
     private static void promise36Broach() {
